@@ -234,7 +234,15 @@ public final class HeatTown {
         if (!isWithin(hours, 1, MOST_HOURS) || !isWithin(what, 0, 3)) {
             return WRONG;
         }
-        int first = lookAhead(hours);
+        startAhead();
+        int first = NONE;
+        for (int i = 0; i < hours; i++) {
+            int hour = later.hour;
+            clock.pass(later);
+            if (noteCold(hour) && first == NONE) {
+                first = hour;
+            }
+        }
         switch (what) {
             case 0:
                 return later.totals[COLD] - now.totals[COLD];
@@ -546,23 +554,14 @@ public final class HeatTown {
         return poorer;
     }
 
-    /** Lets hours go by in a copy; answers the first hour in which a house is cold. */
-    private int lookAhead(int hours) {
+    private void startAhead() {
         later.copyFrom(now);
         aheadHouses = net.houses;
         Arrays.fill(aheadCold, 0L);
         Arrays.fill(aheadFirst, NONE);
-        int first = NONE;
-        for (int i = 0; i < hours; i++) {
-            int hour = later.hour;
-            clock.pass(later);
-            if (noteCold(hour) && first == NONE) {
-                first = hour;
-            }
-        }
-        return first;
     }
 
+    /** Keeps who was cold in an hour of the copy; answers whether some house was. */
     private boolean noteCold(int hour) {
         boolean some = false;
         for (int h = 0; h < aheadHouses; h++) {
@@ -818,12 +817,68 @@ public final class HeatTown {
             }
             // Each way but the last one fills a pipe, so there are no more ways than pipes and one.
             for (int tries = 0; tries <= MOST_PIPES && got[house] < wanted[house]; tries++) {
+                measure(net.homes[house]);
                 int steps = findWay(net.homes[house]);
                 if (steps == 0) {
                     return;
                 }
                 takeWay(house, steps);
             }
+        }
+
+        /** How far it is to the target from each node. */
+        private void measure(int target) {
+            Arrays.fill(distances, FAR);
+            distances[target] = 0;
+            boolean more = true;
+            for (int round = 0; more && round <= MOST_NODES; round++) {
+                more = false;
+                for (int p = 0; p < net.pipes; p++) {
+                    if (room[p] > 0 && inPipe[p] >= 0) {
+                        more |= shorten(net.starts[p], net.ends[p], net.longs[p]);
+                    }
+                    if (room[p] > 0 && inPipe[p] <= 0) {
+                        more |= shorten(net.ends[p], net.starts[p], net.longs[p]);
+                    }
+                }
+            }
+        }
+
+        private boolean shorten(int near, int far, int length) {
+            if (distances[far] + length >= distances[near]) {
+                return false;
+            }
+            distances[near] = distances[far] + length;
+            return true;
+        }
+
+        /** Puts the pipes of the first of the shortest ways into way; answers how many, 0 if there is no way. */
+        private int findWay(int target) {
+            int at = PLANT;
+            int steps = 0;
+            while (at != target && steps < MOST_NODES) {
+                int p = nextPipe(at);
+                if (p == NONE) {
+                    return 0;
+                }
+                way[steps] = p;
+                steps++;
+                at = net.starts[p] == at ? net.ends[p] : net.starts[p];
+            }
+            return at == target ? steps : 0;
+        }
+
+        /** The first pipe by which a shortest way goes on from a node. */
+        private int nextPipe(int at) {
+            for (int p = 0; distances[at] < FAR && p < net.pipes; p++) {
+                boolean fromA = net.starts[p] == at && inPipe[p] >= 0;
+                boolean fromB = net.ends[p] == at && inPipe[p] <= 0;
+                int far = fromA ? net.ends[p] : net.starts[p];
+                if (room[p] > 0 && (fromA || fromB) && distances[at] == distances[far] + net.longs[p]) {
+                    return p;
+                }
+            }
+            return NONE;
         }
 
         private void takeWay(int house, int steps) {
@@ -841,68 +896,6 @@ public final class HeatTown {
                 at = fromA ? net.ends[p] : net.starts[p];
             }
             got[house] += units;
-        }
-
-        /** Puts the pipes of the first of the shortest ways into way; answers how many, 0 if there is no way. */
-        private int findWay(int target) {
-            measure(target);
-            if (distances[PLANT] >= FAR) {
-                return 0;
-            }
-            int at = PLANT;
-            int steps = 0;
-            for (int i = 0; i < MOST_NODES && at != target; i++) {
-                int p = nextPipe(at);
-                if (p == NONE) {
-                    return 0;
-                }
-                way[steps] = p;
-                steps++;
-                at = net.starts[p] == at ? net.ends[p] : net.starts[p];
-            }
-            return at == target ? steps : 0;
-        }
-
-        private int nextPipe(int at) {
-            for (int p = 0; p < net.pipes; p++) {
-                for (int e = 0; e < 2; e++) {
-                    if (net.nodeAt(p, e) == at && canEnter(p, e)
-                            && distances[at] == net.longs[p] + distances[net.nodeAt(p, 1 - e)]) {
-                        return p;
-                    }
-                }
-            }
-            return NONE;
-        }
-
-        private boolean canEnter(int pipe, int end) {
-            return room[pipe] > 0 && (end == 0 ? inPipe[pipe] >= 0 : inPipe[pipe] <= 0);
-        }
-
-        /** How far it is to the target from each node. */
-        private void measure(int target) {
-            Arrays.fill(distances, FAR);
-            distances[target] = 0;
-            boolean more = true;
-            for (int round = 0; more && round <= MOST_NODES; round++) {
-                more = false;
-                for (int p = 0; p < net.pipes; p++) {
-                    if (room[p] > 0) {
-                        more |= shorten(p, 0);
-                        more |= shorten(p, 1);
-                    }
-                }
-            }
-        }
-
-        private boolean shorten(int pipe, int end) {
-            int near = net.nodeAt(pipe, end);
-            int through = net.longs[pipe] + distances[net.nodeAt(pipe, 1 - end)];
-            if (through >= distances[near] || !canEnter(pipe, end)) {
-                return false;
-            }
-            distances[near] = through;
-            return true;
         }
     }
 
@@ -941,8 +934,15 @@ public final class HeatTown {
             faultAt = NONE;
             at = 0;
             draft.clear();
-            readText();
-            if (!isGood()) {
+            if (!isAt(Rules.END)) {
+                readRule();
+            }
+            for (int i = 0; i < MOST_RULES && isSign(';'); i++) {
+                goOn();
+                readRule();
+            }
+            if (!isAt(Rules.END)) {
+                fail();
                 return false;
             }
             target.copyFrom(draft);
@@ -1025,10 +1025,6 @@ public final class HeatTown {
             return value <= Rules.GREATEST ? value : Rules.BAD;
         }
 
-        private boolean isGood() {
-            return faultAt == NONE;
-        }
-
         private void fail() {
             if (faultAt == NONE) {
                 faultAt = spots[at];
@@ -1040,33 +1036,19 @@ public final class HeatTown {
         }
 
         private boolean isSign(char sign) {
-            return isAt(Rules.SIGN + sign);
+            return faultAt == NONE && tokens[at] == Rules.SIGN + sign;
         }
 
-        /** Keeps the token that is come to, and goes on; the last one is never gone beyond. */
+        /** The last token is never gone beyond. */
         private void goOn() {
             if (tokens[at] != Rules.END && at < MOST_BYTES) {
                 at++;
             }
         }
 
-        private void readText() {
-            if (isAt(Rules.END)) {
-                return;
-            }
-            readRule();
-            for (int i = 0; i < MOST_RULES && isSign(';'); i++) {
-                goOn();
-                readRule();
-            }
-            if (!isAt(Rules.END)) {
-                fail();
-            }
-        }
-
         private void readRule() {
             int kind = tokens[at] - Rules.WORD;
-            if (!isGood() || kind < Rules.SEND || kind > Rules.LOSE || draft.rules >= MOST_RULES) {
+            if (faultAt != NONE || kind < Rules.SEND || kind > Rules.LOSE || draft.rules >= MOST_RULES) {
                 fail();
                 return;
             }
@@ -1113,29 +1095,31 @@ public final class HeatTown {
             draft.put(sign);
         }
 
+        /** A + or - is put behind all that its right side joins by * and /. */
         private void readSum(int depth) {
-            readTerm(depth);
-            for (int i = 0; i < MOST_BYTES && (isSign('+') || isSign('-')); i++) {
-                int sign = tokens[at];
-                goOn();
-                readTerm(depth);
-                draft.put(sign);
-            }
-        }
-
-        private void readTerm(int depth) {
+            int waits = NONE;
             readFactor(depth);
-            for (int i = 0; i < MOST_BYTES && (isSign('*') || isSign('/')); i++) {
+            for (int i = 0; i < MOST_BYTES && (isSign('+') || isSign('-') || isSign('*') || isSign('/')); i++) {
                 int sign = tokens[at];
+                boolean binds = isSign('*') || isSign('/');
+                if (!binds && waits != NONE) {
+                    draft.put(waits);
+                }
+                waits = binds ? waits : sign;
                 goOn();
                 readFactor(depth);
-                draft.put(sign);
+                if (binds) {
+                    draft.put(sign);
+                }
+            }
+            if (waits != NONE) {
+                draft.put(waits);
             }
         }
 
         private void readFactor(int depth) {
             int token = tokens[at];
-            if (isGood() && (Rules.isNumber(token) || Rules.isName(token))) {
+            if (faultAt == NONE && (Rules.isNumber(token) || Rules.isName(token))) {
                 draft.put(token);
                 goOn();
             } else if (isSign('(') && depth < DEEPEST) {
@@ -1375,42 +1359,39 @@ public final class HeatTown {
 
         long seek(Places places, int place, State now) {
             int many = Math.min(places.lengths[place], MOST_PLANNED);
-            for (int i = 0; i < LEVELS; i++) {
+            int steps = step <= 0 ? 0 : Math.min(holds / step, MOST_STEPS);
+            for (int i = 0; i <= steps; i++) {
                 best[many * LEVELS + i] = 0;
             }
             for (int k = many - 1; k >= 0; k--) {
-                priceChanges(places.numberAt(place, k), now.hour + k);
-                for (int i = 0; i <= steps(); i++) {
-                    choose(k, i);
+                priceChanges(places.numberAt(place, k), now.hour + k, steps);
+                for (int i = 0; i <= steps; i++) {
+                    choose(k, i, steps);
                 }
             }
-            int start = step <= 0 ? 0 : Math.min(now.stored / step, steps());
-            long least = best[start];
-            isLive = least < NEVER;
+            int start = step <= 0 ? 0 : Math.min(now.stored / step, steps);
+            isLive = best[start] < NEVER;
             if (!isLive) {
                 return NONE;
             }
             keep(many, start);
             from = now.hour;
-            return least;
+            return best[start];
         }
 
-        private int steps() {
-            return step <= 0 ? 0 : Math.min(holds / step, MOST_STEPS);
-        }
-
-        private void priceChanges(long need, int hour) {
-            for (int i = 0; i <= 2 * MOST_STEPS; i++) {
-                long needed = need + (long) (i - MOST_STEPS) * step;
+        private void priceChanges(long need, int hour, int steps) {
+            for (int change = -steps; change <= steps; change++) {
+                long needed = need + (long) change * step;
                 boolean can = needed >= 0 && works.raise(needed, hour) == needed;
-                prices[i] = can ? works.cost : NEVER;
+                prices[change + MOST_STEPS] = can ? works.cost : NEVER;
             }
         }
 
-        private void choose(int k, int level) {
+        /** The least cost from hour k on, and the least level that has it; levels are tried from below. */
+        private void choose(int k, int level, int steps) {
             long least = NEVER;
             int choice = 0;
-            for (int next = 0; next <= steps(); next++) {
+            for (int next = 0; next <= steps; next++) {
                 long total = prices[next - level + MOST_STEPS] + best[(k + 1) * LEVELS + next];
                 if (total < least) {
                     least = total;
@@ -1672,9 +1653,10 @@ public final class HeatTown {
             int[] units = s.units;
             int first = firstUnit(pipe, way);
             int behind = loss == 0 ? first : first + net.longs[pipe];
+            int floor = 100 * ground;
             long lost = 0;
             for (int i = first; i < behind; i++) {
-                int above = units[i] - 100 * ground;
+                int above = units[i] - floor;
                 if (above > 0) {
                     int part = above * loss / 1000;
                     units[i] -= part;

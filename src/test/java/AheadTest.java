@@ -6,6 +6,7 @@ public final class AheadTest {
         whoIsColdWhen();
         nothingHappens();
         whatItCosts();
+        fromWhatIsNow();
         nearTheEnd();
         CHECK.finish();
     }
@@ -93,6 +94,44 @@ public final class AheadTest {
         // The second two units lost 520 each: 2 * 5480 - 5000 is 40 too little.
         CHECK.due("cold", due[0], 40);
         CHECK.due("first cold hour", due[1], 1);
+        long lost = town.sum(3);
+        long costs = town.sum(4);
+        long lostThen = town.ahead(5, 2);
+        long costsThen = town.ahead(5, 3);
+        town.go(5);
+        CHECK.due("lost from then on", lostThen, town.sum(3) - lost);
+        CHECK.due("costs from then on", costsThen, town.sum(4) - costs);
+    }
+
+    /** The store, and what came back in the latest hour, are those of now. */
+    private static void fromWhatIsNow() {
+        HeatTown town = new HeatTown();
+        town.node();
+        town.pipe(0, 1, 20, 20, 0, false, false);
+        town.house(1, 3, 0);
+        town.boiler(10000, 100);
+        town.store(4000, 1000);
+        Check.rules(town, "send 40");
+        Check.numbers(town, 0, 2, 0, 14000);
+        CHECK.due("a plan of 4000 for hour 0", town.plan(0), 400 + 1000);
+        town.go(1);
+        CHECK.due("stored", town.sum(7), 4000);
+        CHECK.due("the store gives 2000, nothing is made", town.ahead(1, 3), 0);
+        CHECK.due("two hours", town.ahead(2, 3), 200);
+        Check.rules(town, "send 40 when back=30;send 50");
+        town.go(1);
+        CHECK.due("back is 30", town.ahead(1, 3), 200);
+        HeatTown warm = new HeatTown();
+        warm.node();
+        warm.pipe(0, 1, 4, 4, 0, false, false);
+        warm.house(1, 2, 0);
+        warm.boiler(100000, 1000);
+        Check.rules(warm, "send 40 when back=30;send 60");
+        // Each hour two units come back; those that house 0 left with 4000 come in hour 2.
+        warm.go(2);
+        CHECK.due("hour 2: 8000 came back", warm.ahead(1, 3), 0);
+        warm.go(1);
+        CHECK.due("hour 3: 12000 less 8000", warm.ahead(1, 3), 4000);
     }
 
     private static void nearTheEnd() {

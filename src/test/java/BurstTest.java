@@ -5,6 +5,7 @@ public final class BurstTest {
     public static void main(String[] args) {
         aLine();
         aRing();
+        longLine();
         openPipesAlone();
         isolating();
         CHECK.finish();
@@ -62,6 +63,32 @@ public final class BurstTest {
         // Pipe 3 runs out of nodes 2 and 0; pipe 2 has no valve at 2, so it runs too, to its valve at 1.
         cut(town, 3, 0b011101, 0b111, 0b11);
         cut(town, 2, 0b011101, 0b111, 0b11);
+        cut(town, 1, 0b001100, 0, 0);
+    }
+
+    /** The longest line there can be, its pipes laid from the far end on. */
+    private static void longLine() {
+        HeatTown town = new HeatTown();
+        for (int i = 0; i < 11; i++) {
+            town.node();
+        }
+        for (int n = 11; n > 0; n--) {
+            town.pipe(n - 1, n, 4, 4, 0, n == 1, false);
+        }
+        cut(town, 0, 1L << 20, 0b111111111110, 0);
+        for (int n = 1; n <= 9; n++) {
+            town.pipe(n + 1, n, 4, 4, 0, true, true);
+        }
+        cut(town, 0, 1L << 20 | 0b111111111111111111L << 22, 0b111111111110, 0);
+        HeatTown valves = new HeatTown();
+        for (int i = 0; i < 11; i++) {
+            valves.node();
+        }
+        for (int n = 11; n > 0; n--) {
+            valves.pipe(n, n - 1, 4, 4, 0, true, true);
+        }
+        cut(valves, 0, 0b11, 0b100000000000, 0);
+        cut(valves, 10, 0b11L << 20, 0b111111111110, 0);
     }
 
     private static void openPipesAlone() {
@@ -96,7 +123,10 @@ public final class BurstTest {
         HeatTown bare = new HeatTown();
         bare.node();
         bare.pipe(0, 1, 4, 4, 0, false, false);
+        bare.house(1, 3, 0);
+        CHECK.due("flow(0)", bare.flow(0), 2);
         CHECK.due("no valves", bare.isolate(0), 0);
+        CHECK.due("flow(0)", bare.flow(0), 0);
         CHECK.due("pipeOf(0, 5)", bare.pipeOf(0, 5), 0);
     }
 }

@@ -110,6 +110,20 @@ public final class FlowsTest {
         town.pipe(1, 2, 4, 4, 0, false, false);
         flows(town, "another pipe beside it", 2, 2, 2, -2);
         CHECK.due("gets(1, 1)", town.gets(1, 1), 2);
+        HeatTown one = nodes(3);
+        one.pipe(0, 1, 4, 1, 0, false, false);
+        one.pipe(1, 2, 4, 4, 0, false, false);
+        one.pipe(0, 2, 20, 9, 0, false, false);
+        one.house(2, 1, 9);
+        one.house(1, 1, 1);
+        flows(one, "one unit is enough", 1, 1, 0);
+        HeatTown mirror = nodes(3);
+        mirror.pipe(1, 0, 4, 1, 0, false, false);
+        mirror.pipe(2, 1, 4, 4, 0, false, false);
+        mirror.pipe(2, 0, 20, 9, 0, false, false);
+        mirror.house(2, 1, 9);
+        mirror.house(1, 1, 1);
+        flows(mirror, "one unit is enough", -1, -1, 0);
     }
 
     private static void would() {

@@ -94,7 +94,7 @@ public final class GroundTest {
         HeatTown town = new HeatTown();
         town.node();
         town.pipe(0, 1, 4, 4, 0, true, false);
-        town.pipe(0, 1, 4, 4, 0, false, true);
+        town.pipe(0, 1, 4, 4, 0, true, true);
         CHECK.due("opening an open one", town.valve(0, 0, false), false);
         CHECK.due("no valve there", town.valve(0, 1, true), false);
         CHECK.due("pipeOf(0, 5)", town.pipeOf(0, 5), 1);

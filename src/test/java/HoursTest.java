@@ -8,6 +8,7 @@ public final class HoursTest {
         backwards();
         passingThrough();
         lossesAndBills();
+        lossesOfManyPipes();
         standingStill();
         wrongQuestions();
         CHECK.finish();
@@ -157,6 +158,31 @@ public final class HoursTest {
         CHECK.due("sums(0, 1)", town.sums(0, 1), 6000);
         CHECK.due("sums(1, 1)", town.sums(1, 1), 2000);
         CHECK.due("sum(5)", town.sum(5), 8000);
+    }
+
+    /** House 0 pays for pipe 0 alone, house 1 for all of pipe 1 and its part of pipe 0. */
+    private static void lossesOfManyPipes() {
+        HeatTown town = new HeatTown();
+        town.node();
+        town.node();
+        town.pipe(0, 1, 4, 4, 100, false, false);
+        town.pipe(2, 1, 4, 4, 1, false, false);
+        town.house(1, 3, 0);
+        town.house(2, 1, 0);
+        Check.rules(town, "lost 1000 when size=3;lost 10");
+        Check.numbers(town, 0, 0, 17);
+        town.air(0);
+        CHECK.due("flow(0)", town.flow(0), 2);
+        CHECK.due("flow(1)", town.flow(1), -1);
+        town.go(1);
+        // Pipe 0, out: 2 of 3000 (220 each) and 2 of 6000 (520). Back at node 1: 6000 - 900 of house 0 and the 3000
+        // that came out of pipe 1 are 4050 each (325); 2 of 3000 (220).
+        long first = 2 * 220 + 2 * 520 + 2 * 325 + 2 * 220;
+        // Pipe 1, out: 4 of 6000 (5 each); back: 3 of 3000 (2), one of 6000 - 300 (4).
+        long second = 4 * 5 + 3 * 2 + 4;
+        CHECK.due("sum(3)", town.sum(3), first + second);
+        CHECK.due("sums(0, 3)", town.sums(0, 3), first / 2);
+        CHECK.due("sums(1, 3)", town.sums(1, 3), first / 2 * 10 / 1000 + second * 10 / 1000);
     }
 
     private static void standingStill() {

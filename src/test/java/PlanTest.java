@@ -12,6 +12,8 @@ public final class PlanTest {
         tooLittle();
         tooMuch();
         whoMakes();
+        orderOfBoilers();
+        fortySteps();
         plansEnd();
         CHECK.finish();
     }
@@ -215,6 +217,42 @@ public final class PlanTest {
         CHECK.due("as much as is needed", town.sum(1), 3000);
         CHECK.due("no boiler", town.sum(0), 2300);
         CHECK.due("cost", town.sum(4), 43 + 14);
+    }
+
+    /** The least cost first, of two alike the least number; each one's cost is cut. */
+    private static void orderOfBoilers() {
+        HeatTown town = new HeatTown();
+        town.boiler(1000, 40);
+        town.boiler(1000, 30);
+        town.boiler(1000, 20);
+        town.boiler(1000, 10);
+        plan(town, "one", new long[] {1000}, 10, 0);
+        plan(town, "two", new long[] {2000}, 30, 0);
+        plan(town, "three", new long[] {3000}, 60, 0);
+        plan(town, "four", new long[] {4000}, 100, 0);
+        HeatTown alike = new HeatTown();
+        alike.boiler(333, 20);
+        alike.boiler(500, 20);
+        plan(alike, "333 and 167", new long[] {500}, 6 + 3, 0);
+    }
+
+    private static void fortySteps() {
+        HeatTown town = new HeatTown();
+        town.store(40, 1);
+        town.boiler(50, 1000);
+        plan(town, "all at once", new long[] {10, 90, 0}, 100, 40, 0, 0);
+        plan(town, "one too many", new long[] {0, 91}, -1, 40, 0, 0);
+        long[] needs = new long[24];
+        needs[23] = 90;
+        Check.numbers(town, 0, 1, needs);
+        CHECK.due("in the last hour", town.plan(0), 90);
+        CHECK.due("planned(21)", town.planned(21), 0);
+        CHECK.due("planned(22)", town.planned(22), 40);
+        CHECK.due("planned(23)", town.planned(23), 0);
+        plan(town, "now", new long[] {0, 51}, 51, 1, 0);
+        town.go(1);
+        CHECK.due("a step of 1", town.sum(7), 1);
+        plan(town, "from 1 on", new long[] {51}, 50, 0);
     }
 
     private static void plansEnd() {

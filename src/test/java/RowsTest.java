@@ -77,6 +77,11 @@ public final class RowsTest {
         CHECK.due("paste(0, 2, 1, 0, 3)", town.paste(0, 2, 1, 0, 3), 0);
         expectAirs(town, 1, 3, 4, 5);
         CHECK.due("paste(0, 5, 1, 3, 0)", town.paste(0, 5, 1, 3, 0), 0);
+        Check.numbers(town, 2, 2, 11, 12);
+        Check.numbers(town, 3, 2, 13, 14);
+        CHECK.due("paste(3, 1, 2, 0, 1)", town.paste(3, 1, 2, 0, 1), 0);
+        expectAirs(town, 2, 14, 12);
+        expectAirs(town, 3, 13, 14);
         CHECK.due("its own, upwards", town.paste(0, 0, 0, 1, 4), 0);
         expectAirs(town, 0, 1, 1, 2, 3, 4);
         CHECK.due("its own, downwards", town.paste(0, 2, 0, 0, 3), 0);

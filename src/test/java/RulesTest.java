@@ -56,6 +56,8 @@ public final class RulesTest {
         text("send 0000000000009999", 1);
         text("send ((((((((1))))))))+((((((((2))))))))", 1);
         text("send (1)+(2)*(3+(4))", 1);
+        text("send " + "1+".repeat(147) + "1", 1);
+        text("send 1 when ((((((((1))))))))=((((((((1))))))))", 1);
         text("send 1;send 1;send 1;send 1;send 1;send 1;send 1;send 1;send 1;send 1;send 1;send 1", 12);
     }
 
@@ -100,6 +102,8 @@ public final class RulesTest {
         fault("send (1;drop 2", 7);
         fault("send (((((((((1)))))))))", 13);
         fault("send 1+((((((((2+(3))))))))))", 17);
+        fault("send 1 when (((((((((1)))))))))=1", 20);
+        fault("send 1 when 1=(((((((((1)))))))))", 22);
         fault("send 1<2", 6);
         fault("send 1 and 1<2", 7);
         fault("send 1 or", 7);
@@ -120,6 +124,8 @@ public final class RulesTest {
         fault(twelve + ";lost 1;x", twelve.length() + 1);
         fault(twelve + ";", twelve.length() + 1);
         fault(twelve + " x", twelve.length() + 1);
+        fault(";".repeat(300), 0);
+        fault("send1" + "+1".repeat(147) + "+", 300);
     }
 
     private static void fault(String text, int place) {
@@ -169,6 +175,13 @@ public final class RulesTest {
         drop(two62 + "*4+33", 33);
         drop("(0-" + two62 + "*2)/(0-1)+40", 5);
         drop("(0-9)/(0-1)+10", 19);
+        HeatTown town = new HeatTown();
+        town.node();
+        town.house(1, 32, 9);
+        Check.numbers(town, 0, 0, 1);
+        town.air(0);
+        Check.rules(town, "drop 61");
+        CHECK.due("608 by 60", town.gets(0, 0), 11);
     }
 
     private static void conditions() {
@@ -218,6 +231,21 @@ public final class RulesTest {
         CHECK.due("hour 54 is 6", town.gets(0, 0), 167);
         houseNames();
         storeName();
+        noHouse();
+    }
+
+    /** Names of a house are 0 in send and drop, though an hour asked them of houses. */
+    private static void noHouse() {
+        HeatTown town = new HeatTown();
+        town.node();
+        town.pipe(0, 1, 4, 1, 0, false, false);
+        town.house(1, 50, 9);
+        town.boiler(200000, 0);
+        Check.rules(town, "price 1;drop 20+size+rank+cold;send 60+size+rank+cold");
+        town.go(2);
+        CHECK.due("wants", town.gets(0, 0), 50);
+        CHECK.due("sent", town.count(10), 6000);
+        CHECK.due("it was cold", town.houseOf(0, 5), 2);
     }
 
     /** Two houses at one pipe use 6000 and 2000; a third one has no way and is cold. */
