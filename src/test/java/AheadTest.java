@@ -121,17 +121,20 @@ public final class AheadTest {
         Check.rules(town, "send 40 when back=30;send 50");
         town.go(1);
         CHECK.due("back is 30", town.ahead(1, 3), 200);
-        HeatTown warm = new HeatTown();
-        warm.node();
-        warm.pipe(0, 1, 4, 4, 0, false, false);
-        warm.house(1, 2, 0);
-        warm.boiler(100000, 1000);
-        Check.rules(warm, "send 40 when back=30;send 60");
-        // Each hour two units come back; those that house 0 left with 4000 come in hour 2.
-        warm.go(2);
-        CHECK.due("hour 2: 8000 came back", warm.ahead(1, 3), 0);
-        warm.go(1);
-        CHECK.due("hour 3: 12000 less 8000", warm.ahead(1, 3), 4000);
+        // Each hour two units come back; those that the house left with 4000 come in hour 2.
+        CHECK.due("hour 2: 8000 came back", warm(2).ahead(1, 3), 0);
+        CHECK.due("hour 3: 12000 less 8000", warm(3).ahead(1, 3), 4000);
+    }
+
+    private static HeatTown warm(int hours) {
+        HeatTown town = new HeatTown();
+        town.node();
+        town.pipe(0, 1, 4, 4, 0, false, false);
+        town.house(1, 2, 0);
+        town.boiler(100000, 1000);
+        Check.rules(town, "send 40 when back=30;send 60");
+        town.go(hours);
+        return town;
     }
 
     private static void nearTheEnd() {

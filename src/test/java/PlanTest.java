@@ -179,6 +179,12 @@ public final class PlanTest {
         CHECK.due("the water is colder", less.count(10), 3500);
         CHECK.due("nothing is left", less.sum(7), 0);
         plan(less, "from a part of a step on", new long[] {0}, 0, 0);
+        HeatTown one = running(1999, 0);
+        one.store(1, 1);
+        plan(one, "a store of one", new long[] {0, 2000}, 0, 1, 0);
+        one.go(1);
+        CHECK.due("one lacks at the store, one in the water", one.sum(7), 0);
+        CHECK.due("two units", one.count(10), 7999 / 2);
     }
 
     private static void tooMuch() {
