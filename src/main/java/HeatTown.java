@@ -1506,6 +1506,7 @@ public final class HeatTown {
             moveOut(s);
             heat(s, send);
             fillPipes(s, OUT);
+            // Houses come behind the pipes of their node: they get on from what fillPipes() has given.
             int air = airs.lastingAt(s.hour);
             for (int h = 0; h < net.houses; h++) {
                 supply(s, h, 100L * flows.needOf(h, air));
