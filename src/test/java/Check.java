@@ -2,12 +2,23 @@
 final class Check {
     private int asked = 0;
     private int wrong = 0;
+    private String sentence = "";
+
+    /** Names the promise, and the words of it, that the next answers hold. */
+    void promise(int number, String words) {
+        sentence = "promise " + number + ", '" + words + "': ";
+    }
+
+    /** Names the part of the Terms, and the words of it, that the next answers hold. */
+    void terms(String part, String words) {
+        sentence = "terms " + part + ", '" + words + "': ";
+    }
 
     void due(String call, long got, long want) {
         asked++;
         if (got != want) {
             wrong++;
-            System.out.println(call + " answered " + got + ", due is " + want);
+            System.out.println(sentence + call + " answered " + got + ", due is " + want);
         }
     }
 
@@ -46,6 +57,22 @@ final class Check {
         for (int i = 0; i < numbers.length; i++) {
             town.write(place, i, numbers[i]);
         }
+    }
+
+    /** A new town of so many nodes, the plant among them. */
+    static HeatTown nodes(int many) {
+        HeatTown town = new HeatTown();
+        for (int i = 1; i < many; i++) {
+            town.node();
+        }
+        return town;
+    }
+
+    /** The air is this one from now on. */
+    static void air(HeatTown town, int air) {
+        numbers(town, 3, 0, air);
+        town.air(3);
+        town.tear(3);
     }
 
     private static int four(CharSequence text, int from) {
