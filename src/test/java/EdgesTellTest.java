@@ -114,6 +114,16 @@ public final class EdgesTellTest {
             holds(below[i] + "=" + below[i], true);
             holds(below[i] + "=" + above[i], false);
         }
+        String[] hold = {"1<2", "2>1", "1=1"};
+        String[] fail = {"2<1", "1>2", "1=2"};
+        for (int i = 0; i < 3; i++) {
+            for (int k = 0; k < 3; k++) {
+                holds(hold[i] + " and " + hold[k], true);
+                holds(hold[i] + " and " + fail[k], false);
+                holds(fail[i] + " or " + hold[k], true);
+                holds(fail[i] + " or " + fail[k], false);
+            }
+        }
     }
 
     private static void firstThatHolds() {
