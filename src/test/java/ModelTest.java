@@ -25,6 +25,7 @@ public final class ModelTest {
             for (int i = 0; i < 300 && !run.differs; i++) {
                 run.call(run.chance.nextInt(64));
             }
+            run.lookAtAll();
             check.due("run " + seed + " differs", run.differs, false);
         }
         check.finish();
@@ -177,6 +178,46 @@ public final class ModelTest {
         } else {
             w = pick(0, 10);
             same("count(" + w + ")", town.count(w), model.count(w));
+        }
+    }
+
+    /** All that can be asked without a change, so that no unit and no sum is left to chance. */
+    private void lookAtAll() {
+        for (int what = -1; what <= 11; what++) {
+            same("count(" + what + ")", town.count(what), model.count(what));
+            same("sum(" + what + ")", town.sum(what), model.sum(what));
+        }
+        for (int p = -1; p <= model.pipes.size(); p++) {
+            lookAtPipe(p);
+        }
+        for (int h = -1; h <= model.houses.size(); h++) {
+            lookAtHouse(h);
+        }
+        for (int k = -1; k <= 24; k++) {
+            same("planned(" + k + ")", town.planned(k), model.planned(k));
+        }
+        same("fault()", town.fault(), model.fault());
+    }
+
+    private void lookAtPipe(int p) {
+        same("flow(" + p + ")", town.flow(p), model.flow(p));
+        for (int what = -1; what <= 8; what++) {
+            same("pipeOf(" + p + ", " + what + ")", town.pipeOf(p, what), model.pipeOf(p, what));
+        }
+        for (int what = 0; what <= 2; what++) {
+            same("cut(" + p + ", " + what + ")", town.cut(p, what), model.cut(p, what));
+            for (int k = -1; k <= 60; k++) {
+                same("unit(" + p + ", " + k + ", " + what + ")", town.unit(p, k, what), model.unit(p, k, what));
+            }
+        }
+    }
+
+    private void lookAtHouse(int h) {
+        for (int what = -1; what <= 6; what++) {
+            same("houseOf(" + h + ", " + what + ")", town.houseOf(h, what), model.houseOf(h, what));
+            same("sums(" + h + ", " + what + ")", town.sums(h, what), model.sums(h, what));
+            same("gets(" + h + ", " + what + ")", town.gets(h, what), model.gets(h, what));
+            same("aheadOf(" + h + ", " + what + ")", town.aheadOf(h, what), model.aheadOf(h, what));
         }
     }
 
