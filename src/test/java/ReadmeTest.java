@@ -78,6 +78,10 @@ public final class ReadmeTest {
         Path place = Files.createTempDirectory("readme");
         Path file = place.resolve("Example.java");
         Files.writeString(file, source);
+        // What is named last goes first, so the directory is empty when its turn comes.
+        place.toFile().deleteOnExit();
+        file.toFile().deleteOnExit();
+        place.resolve("Example.class").toFile().deleteOnExit();
         int code = ToolProvider.getSystemJavaCompiler().run(null, null, null,
             "-cp", System.getProperty("java.class.path"), "-d", place.toString(), file.toString());
         if (code != 0) {
